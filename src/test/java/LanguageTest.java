@@ -167,10 +167,10 @@ public final class LanguageTest {
     private static void roomForDepth() {
         Calls c = new Calls("depth").value("(%f(\\n.(?n(+1(f(-n 1)))0))(f 22))", "22");
         c.fault("(%f(\\n.(?n(+1(f(-n 1)))0))(f 23))", ROOM, 5 + 22 * 9 + 7).state(3, 1 + 23);
-        Calls deep = new Calls("depth 24").text("(%f(\\n.(?(=n 0)0(+1(f(-n 1)))))(f 22))", 38).start(17);
+        Calls deep = new Calls("depth 24").text("(%f(\\n.(?n(+1(f(-n 1)))0))(f 22))", 33).start(15);
         int most = 0;
-        while (deep.core.state(0) == ContinuationCore.RUNNING) {
-            deep.core.run(1);
+        for (int step = 0; step < 5 + 22 * 9 + 3; step++) {
+            deep.run(1, 1);
             most = Math.max(most, deep.core.state(4));
         }
         deep.due("most", most, 24);

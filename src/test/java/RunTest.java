@@ -43,7 +43,7 @@ public final class RunTest {
         for (int i = 0; i < texts.length; i++) {
             new Calls("promise 6").text(texts[i], texts[i].length()).start(counts[i]).start(BUSY).state(0, 1).stop(0).start(counts[i]);
         }
-        new Calls("many").text("((a)".repeat(1) + "(b c d)(e f g)(h i j))", 22 + 4).start(1 + 2 + 4 + 4 + 4);
+        new Calls("many").text("((a)(b c d)(e f g)(h i j))", 26).start(1 + 2 + 4 + 4 + 4);
         new Calls("not whole").start(BUSY).text("(+1 2", 5).start(BUSY).states(0, 0, 0, 0, 0, 0).text(")", 6).start(3);
         new Calls("not whole later").text("7", 1).start(1).run(1, 1).clear(1).start(BUSY).text("(", 1).start(BUSY)
             .states(2, 1, 0, 0, 0, 0).shows("7");
@@ -137,13 +137,15 @@ public final class RunTest {
         c.value("(:(:1111(:2222(:3333(:4444(:5555 _)))))(:6666(:7777(:123 _))))",
             "((1111.(2222.(3333.(4444.(5555._))))).(6666.(7777.(123._))))");
         c.sign(59, (int) ')');
-        Calls deep = new Calls("promise 10, sixty pairs");
-        deep.value("(%f(\\n.(?n(:(f(-n 1))1)_))(f 11))", "(((((((((((_.1).1).1).1).1).1).1).1).1).1).1)");
-        // Shared halves would make a text of more than 2 to the power of 59 signs.
-        deep.value("(&(!p _)(%f(\\.(?(=n 0)p(&(!p(:p p))(&(!n(-n 1))(f)))))(&(!n 60)(f))))", "(".repeat(60));
-        deep.state(2, 60);
-        deep.value("(&(!p _)(%f(\\.(?(=n 0)p(&(!p(:1 p))(&(!n(-n 1))(f)))))(&(!n 60)(f))))", "(1.".repeat(20));
-        deep.value("(&(!p _)(%f(\\.(?(=n 0)p(&(!p(:p 1))(&(!n(-n 1))(f)))))(&(!n 60)(f))))", "(".repeat(60));
+        new Calls("promise 10, deep").value("(%f(\\n.(?n(:(f(-n 1))1)_))(f 11))", "(((((((((((_.1).1).1).1).1).1).1).1).1).1).1)");
+        // Shared halves would make a text of more than 2 to the power of 60 signs.
+        new Calls("promise 10, shared").value(sixtyPairs("(:p p)"), "(".repeat(60)).state(2, 60);
+        new Calls("promise 10, first").value(sixtyPairs("(:p 1)"), "(".repeat(60));
+        new Calls("promise 10, second").value(sixtyPairs("(:1 p)"), "(1.".repeat(20));
+    }
+
+    private static String sixtyPairs(String pair) {
+        return "(&(!p _)(%f(\\.(?(=n 0)p(&(!p" + pair + ")(&(!n(-n 1))(f)))))(&(!n 60)(f))))";
     }
 
     private static void globalsNow() {

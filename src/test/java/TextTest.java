@@ -64,9 +64,9 @@ public final class TextTest {
 
     private static void limitsOfText() {
         String spaces = " ".repeat(120);
-        String eleven = "((((((((((((";
-        new Calls("12 open").text(eleven, 12).text("(", REFUSED).text("a", 13).text(")".repeat(12), 25).whole(1);
-        new Calls("12 open again").text(eleven + "a)", 14).text("(", 15).text("(", REFUSED).text("b))", 18);
+        String twelve = "((((((((((((";
+        new Calls("12 open").text(twelve, 12).text("(", REFUSED).text("a", 13).text(")".repeat(12), 25).whole(1);
+        new Calls("12 open again").text(twelve + "a)", 14).text("(", 15).text("(", REFUSED).text("b))", 18);
         new Calls("120 signs").text("(a" + spaces.substring(0, 117), 119).text(")", 120).whole(1).number(0, 120)
             .text(")", REFUSED).start(2).run(1, 1);
         new Calls("121 signs").text("(a" + spaces.substring(0, 118), 120).whole(0).number(0, 120).text(")", REFUSED)
