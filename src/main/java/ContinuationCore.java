@@ -28,11 +28,14 @@ public final class ContinuationCore {
     private final char[] signRow = new char[MOST_SIGNS + SIGNS_A_CALL];
     private final Reader reader = new Reader();
     private final Machine machine = new Machine();
-    private final IntValue[] givens = new IntValue[LETTERS];
+    private final Place[] givens = new Place[LETTERS];
     private int length;
     private int givenCount;
 
     public ContinuationCore() {
+        for (int name = 0; name < LETTERS; name++) {
+            givens[name] = new Place();
+        }
     }
 
     public int text(long signs) throws IllegalStateException, IllegalArgumentException {
@@ -73,10 +76,10 @@ public final class ContinuationCore {
         if (machine.status == RUNNING) {
             throw new IllegalStateException("a run is going on");
         }
-        if (givens[name] == null) {
+        if (givens[name].kind == Place.NOTHING) {
             givenCount++;
         }
-        givens[name] = new IntValue(value);
+        givens[name].hold(Place.INT, value);
         return givenCount;
     }
 
@@ -151,10 +154,11 @@ public final class ContinuationCore {
         if (!isLetter(name)) {
             throw new IllegalArgumentException("the name is not 0 .. 25");
         }
-        if (machine.globals[name].value instanceof IntValue held) {
-            return held.number;
+        Place held = machine.globals[name].held;
+        if (held.kind != Place.INT) {
+            throw new NoSuchElementException("the name has no int");
         }
-        throw new NoSuchElementException("the name has no int");
+        return held.number;
     }
 
     private static boolean isLetter(int name) {
@@ -426,109 +430,112 @@ public final class ContinuationCore {
         }
     }
 
-    private abstract static class Value {
+    /**
+     * A place that holds a value or nothing. Values are copied from place to place, so that handing
+     * one on makes no object, however many forms go on within one step.
+     */
+    private static final class Place {
+        static final char NOTHING = ' ';
+        static final char INT = '0';
+        static final char EMPTY = '_';
+        static final char PAIR = '.';
+        static final char CLOSURE = 'L';
+        static final char CONTINUATION = 'K';
+
+        char kind = NOTHING;
+        /** The int; of a pair, a closure or a continuation, which one of its run it is. */
+        int number;
+        Pair pair;
+        Closure closure;
+        /** The chain of a continuation, null if it is empty. */
+        Waiting chain;
+
+        void copy(Place other) {
+            kind = other.kind;
+            number = other.number;
+            pair = other.pair;
+            closure = other.closure;
+            chain = other.chain;
+        }
+
+        void hold(char newKind, int newNumber) {
+            kind = newKind;
+            number = newNumber;
+            pair = null;
+            closure = null;
+            chain = null;
+        }
+
+        void holdPair(int which, Pair newPair) {
+            hold(PAIR, which);
+            pair = newPair;
+        }
+
+        void holdClosure(int which, Closure newClosure) {
+            hold(CLOSURE, which);
+            closure = newClosure;
+        }
+
+        void holdContinuation(int which, Waiting newChain) {
+            hold(CONTINUATION, which);
+            chain = newChain;
+        }
+
         /** What '=' means by equal. */
-        boolean isSame(Value other) {
-            return this == other;
+        boolean isSame(Place other) {
+            return kind == other.kind && number == other.number;
         }
 
-        abstract void write(StringBuilder out);
-    }
-
-    private static final class IntValue extends Value {
-        final int number;
-
-        IntValue(int number) {
-            this.number = number;
-        }
-
-        @Override
-        boolean isSame(Value other) {
-            return other instanceof IntValue that && that.number == number;
-        }
-
-        @Override
-        void write(StringBuilder out) {
-            out.append(number);
-        }
-    }
-
-    private static final class EmptyValue extends Value {
-        @Override
-        boolean isSame(Value other) {
-            return other instanceof EmptyValue;
-        }
-
-        @Override
-        void write(StringBuilder out) {
-            out.append('_');
-        }
-    }
-
-    private static final class PairValue extends Value {
-        final Value first;
-        final Value second;
-
-        PairValue(Value first, Value second) {
-            this.first = first;
-            this.second = second;
+        boolean isZero() {
+            return kind == INT && number == 0;
         }
 
         /**
          * Pairs may share their halves, so the whole text can be far too long: behind the signs that
          * are shown nothing is begun. Each level has written a sign, which keeps the levels few, too.
          */
-        @Override
         void write(StringBuilder out) {
             if (out.length() >= SHOWN_SIGNS) {
                 return;
             }
-            out.append('(');
-            first.write(out);
-            out.append('.');
-            second.write(out);
-            out.append(')');
+            if (kind == INT) {
+                out.append(number);
+            } else if (pair == null) {
+                out.append(kind);
+            } else {
+                out.append('(');
+                pair.first.write(out);
+                out.append('.');
+                pair.second.write(out);
+                out.append(')');
+            }
         }
     }
 
-    private static final class ClosureValue extends Value {
+    private static final class Pair {
+        final Place first = new Place();
+        final Place second = new Place();
+    }
+
+    private static final class Closure {
         final Expression code;
         final Binding scope;
 
-        ClosureValue(Expression code, Binding scope) {
+        Closure(Expression code, Binding scope) {
             this.code = code;
             this.scope = scope;
         }
-
-        @Override
-        void write(StringBuilder out) {
-            out.append('L');
-        }
     }
 
-    private static final class ContinuationValue extends Value {
-        final Waiting chain;
-
-        ContinuationValue(Waiting chain) {
-            this.chain = chain;
-        }
-
-        @Override
-        void write(StringBuilder out) {
-            out.append('K');
-        }
-    }
-
-    /** A name with a value, or with null; with those behind it, it is a SCOPE. */
+    /** A name with a value or with nothing; with those behind it, it is a SCOPE. */
     private static final class Binding {
-        final int name;
-        final Binding behind;
-        Value value;
+        final Place held = new Place();
+        int name;
+        Binding behind;
 
-        Binding(int name, Value value, Binding behind) {
-            this.name = name;
-            this.value = value;
-            this.behind = behind;
+        void become(int newName, Binding newBehind) {
+            name = newName;
+            behind = newBehind;
         }
     }
 
@@ -536,46 +543,55 @@ public final class ContinuationCore {
     private static final class Waiting {
         final Expression form;
         final Binding scope;
-        final Value[] done;
+        /** The values of its parts before the one that it waits for. */
+        final Place[] done;
         final Waiting behind;
         final int depth;
 
-        Waiting(Expression form, Binding scope, Value[] done, Waiting behind) {
+        Waiting(Expression form, Binding scope, Place[] values, int count, Waiting behind) {
             this.form = form;
             this.scope = scope;
-            this.done = done;
             this.behind = behind;
             this.depth = behind == null ? 1 : behind.depth + 1;
-        }
-
-        /** The values of its parts so far, in a row of their own, with one more. */
-        Value[] doneWith(Value value) {
-            Value[] all = new Value[done.length + 1];
-            for (int i = 0; i < done.length; i++) {
-                all[i] = done[i];
+            this.done = new Place[count];
+            for (int i = 0; i < count; i++) {
+                done[i] = new Place();
+                done[i].copy(values[i]);
             }
-            all[done.length] = value;
-            return all;
         }
     }
 
-    /** Runs a compiled text. */
+    /**
+     * Runs a compiled text. What waits and closures are made anew, a few objects at most in each step;
+     * bindings and pairs are those of the constructor, used again by each run.
+     */
     private static final class Machine {
         private static final int MOST_PAIRS = 60;
         private static final int MOST_BINDINGS = 120;
         private static final int MOST_DEPTH = 24;
-        /** Forms go on within one step only towards older ones, and each was made by a step of its own. */
+        /**
+         * Within one step a form hands over only to forms older than itself, or, if it is '^', to those
+         * of the continuation that it calls, which then gets older forms in exchange. So the turns of a
+         * step stay below some sixty times the forms that ever waited, and far below this bound.
+         */
         private static final int MOST_TURNS = 1000000;
 
         final Binding[] globals = new Binding[LETTERS];
         final StringBuilder shown = new StringBuilder();
-        private final Value empty = new EmptyValue();
-        private final Value[] nothing = new Value[0];
+        private final Binding[] bindingRow = new Binding[MOST_BINDINGS];
+        private final Pair[] pairRow = new Pair[MOST_PAIRS];
+        private final Place nothing = new Place();
+        /** The value that the newest waiting form goes on with. */
+        private final Place value = new Place();
+        /** The values of the parts of the form that goes on. */
+        private final Place[] values = new Place[Expression.MOST_PARTS];
         int status;
         int steps;
         int pairs;
         int bindings;
         int fault;
+        /** How many closures and continuations the run has made. */
+        private int made;
         /** What the next step begins, and where. */
         private Expression next;
         private Binding nextScope;
@@ -584,20 +600,31 @@ public final class ContinuationCore {
         Machine() {
             Binding behind = null;
             for (int name = 0; name < LETTERS; name++) {
-                behind = new Binding(name, null, behind);
-                globals[name] = behind;
+                globals[name] = new Binding();
+                globals[name].become(name, behind);
+                behind = globals[name];
+            }
+            for (int i = 0; i < MOST_BINDINGS; i++) {
+                bindingRow[i] = new Binding();
+            }
+            for (int i = 0; i < MOST_PAIRS; i++) {
+                pairRow[i] = new Pair();
+            }
+            for (int i = 0; i < Expression.MOST_PARTS; i++) {
+                values[i] = new Place();
             }
         }
 
-        void prepare(Expression code, IntValue[] givens) {
+        void prepare(Expression code, Place[] givens) {
             for (int name = 0; name < LETTERS && name < givens.length; name++) {
-                globals[name].value = givens[name];
+                globals[name].held.copy(givens[name]);
             }
             status = RUNNING;
             steps = 0;
             pairs = 0;
             bindings = 0;
             fault = 0;
+            made = 0;
             chain = null;
             goLast(code, globals[LETTERS - 1]);
         }
@@ -608,163 +635,193 @@ public final class ContinuationCore {
 
         void step() {
             steps++;
-            Value value = begin(next, nextScope);
-            for (int turn = 0; turn < MOST_TURNS && value != null; turn++) {
+            boolean goesOn = begin(next, nextScope);
+            for (int turn = 0; turn < MOST_TURNS && goesOn; turn++) {
                 Waiting newest = chain;
                 if (newest == null) {
-                    shown.setLength(0);
-                    value.write(shown);
-                    status = ENDED;
-                    value = null;
+                    end();
+                    goesOn = false;
                 } else {
                     chain = newest.behind;
-                    value = goOn(newest, value);
+                    goesOn = goOn(newest);
                 }
             }
         }
 
-        /** Answers null, as there is no value to go on with. */
-        private Value fail(int newFault) {
-            status = FAULT;
-            fault = newFault;
-            return null;
+        private void end() {
+            shown.setLength(0);
+            value.write(shown);
+            status = ENDED;
         }
 
-        /** The value, null if a part is to be begun first or after a fault. */
-        private Value begin(Expression code, Binding scope) {
+        /** Answers false, as there is no value to go on with. */
+        private boolean fail(int newFault) {
+            status = FAULT;
+            fault = newFault;
+            return false;
+        }
+
+        /** Answers true, as there is a value to go on with. */
+        private boolean answer(Place place) {
+            value.copy(place);
+            return true;
+        }
+
+        private boolean answerInt(int number) {
+            value.hold(Place.INT, number);
+            return true;
+        }
+
+        /** Answers whether there is a value; if not, a part is to be begun first or there was a fault. */
+        private boolean begin(Expression code, Binding scope) {
             switch (code.kind) {
                 case Expression.NUMBER:
-                    return new IntValue(code.number);
+                    return answerInt(code.number);
                 case Expression.EMPTY:
-                    return empty;
+                    value.hold(Place.EMPTY, 0);
+                    return true;
                 case Expression.LETTER:
-                    return valueOf(code.number, scope);
+                    Binding found = find(code.number, scope);
+                    return found == null || found.held.kind == Place.NOTHING ? fail(NAME) : answer(found.held);
                 case Expression.CLOSURE:
-                    return new ClosureValue(code, scope);
+                    value.holdClosure(made, new Closure(code, scope));
+                    made++;
+                    return true;
                 case '%':
-                    Binding inner = bind(code.number, null, scope);
-                    return inner == null ? null : await(code, inner, nothing);
+                    Binding inner = bind(code.number, nothing, scope);
+                    return inner != null && await(code, inner, 0);
                 default:
-                    return await(code, scope, nothing);
+                    return await(code, scope, 0);
             }
         }
 
         /** The form goes on with the value of a part; answers as begin does. */
-        private Value goOn(Waiting waiting, Value value) {
+        private boolean goOn(Waiting waiting) {
             Expression form = waiting.form;
             Binding scope = waiting.scope;
             switch (form.kind) {
                 case '?':
-                    return goLast(form.parts[isZero(value) ? 2 : 1], scope);
+                    return goLast(form.parts[value.isZero() ? 2 : 1], scope);
                 case '&':
                     return goLast(form.parts[1], scope);
                 case '@':
                     Binding inner = bind(form.number, value, scope);
-                    return inner == null ? null : goLast(form.parts[1], inner);
+                    return inner != null && goLast(form.parts[1], inner);
                 case '%':
-                    scope.value = value;
+                    scope.held.copy(value);
                     return goLast(form.parts[1], scope);
                 default:
-                    Value[] all = waiting.doneWith(value);
-                    return all.length < form.partCount ? await(form, scope, all) : complete(form, scope, all);
+                    int count = gather(waiting.done);
+                    return count < form.partCount ? await(form, scope, count) : complete(form, scope, count);
             }
+        }
+
+        /** Puts the values so far and the new one side by side; answers how many they are. */
+        private int gather(Place[] done) {
+            int count = 0;
+            while (count < done.length && count < values.length - 1) {
+                values[count].copy(done[count]);
+                count++;
+            }
+            values[count].copy(value);
+            return count + 1;
         }
 
         /** The next step begins the part, and nothing waits for it that did not wait before. */
-        private Value goLast(Expression part, Binding scope) {
+        private boolean goLast(Expression part, Binding scope) {
             next = part;
             nextScope = scope;
-            return null;
+            return false;
         }
 
-        /** The next step begins the part behind those that are done, and the form waits for it. */
-        private Value await(Expression form, Binding scope, Value[] done) {
+        /** The next step begins the part behind those that have values, and the form waits for it. */
+        private boolean await(Expression form, Binding scope, int count) {
             if (depth() >= MOST_DEPTH) {
                 return fail(ROOM);
             }
-            chain = new Waiting(form, scope, done, chain);
-            return goLast(form.parts[done.length], scope);
+            chain = new Waiting(form, scope, values, count, chain);
+            return goLast(form.parts[count], scope);
         }
 
         /** All parts of the form have values. */
-        private Value complete(Expression form, Binding scope, Value[] all) {
+        private boolean complete(Expression form, Binding scope, int count) {
             switch (form.kind) {
                 case Expression.APPLICATION:
-                    return call(all);
+                    return call(count - 1);
                 case '^':
-                    return call(new Value[] {all[0], new ContinuationValue(chain)});
+                    values[1].holdContinuation(made, chain);
+                    made++;
+                    return call(1);
                 case '!':
-                    return assign(form.number, all[0], scope);
+                    Binding found = find(form.number, scope);
+                    if (found != null) {
+                        found.held.copy(value);
+                    }
+                    return true;
                 case 'A':
-                    return all[0] instanceof PairValue pair ? pair.first : fail(KIND);
+                    return value.pair == null ? fail(KIND) : answer(value.pair.first);
                 case 'D':
-                    return all[0] instanceof PairValue pair ? pair.second : fail(KIND);
+                    return value.pair == null ? fail(KIND) : answer(value.pair.second);
                 case 'P':
-                    return truth(all[0] instanceof PairValue);
+                    return answerInt(value.pair == null ? 0 : 1);
                 case ':':
-                    return makePair(all[0], all[1]);
+                    return makePair();
                 case '=':
-                    return truth(all[0].isSame(all[1]));
+                    return answerInt(values[0].isSame(values[1]) ? 1 : 0);
                 default:
-                    return reckon(form.kind, all[0], all[1]);
+                    return reckon(form.kind);
             }
         }
 
-        /** Calls the first value with the others. */
-        private Value call(Value[] all) {
-            int count = all.length - 1;
-            if (all[0] instanceof ContinuationValue continuation) {
-                if (count != 1) {
+        /** Calls the first of the values with so many behind it. */
+        private boolean call(int arguments) {
+            if (values[0].kind == Place.CONTINUATION) {
+                if (arguments != 1) {
                     return fail(COUNT);
                 }
-                chain = continuation.chain;
-                return all[1];
+                chain = values[0].chain;
+                return answer(values[1]);
             }
-            if (!(all[0] instanceof ClosureValue closure)) {
+            Closure closure = values[0].closure;
+            if (closure == null) {
                 return fail(KIND);
             }
-            if (count != closure.code.nameCount) {
+            if (arguments != closure.code.nameCount) {
                 return fail(COUNT);
             }
             Binding scope = closure.scope;
-            for (int i = 0; i < count; i++) {
-                scope = bind(closure.code.names[i], all[i + 1], scope);
+            for (int i = 0; i < arguments; i++) {
+                scope = bind(closure.code.names[i], values[i + 1], scope);
                 if (scope == null) {
-                    return null;
+                    return false;
                 }
             }
             return goLast(closure.code.parts[0], scope);
         }
 
         /** Puts a new binding in front of the scope; null after a fault. */
-        private Binding bind(int name, Value value, Binding scope) {
+        private Binding bind(int name, Place held, Binding scope) {
             if (bindings >= MOST_BINDINGS) {
                 fail(ROOM);
                 return null;
             }
+            Binding binding = bindingRow[bindings];
             bindings++;
-            return new Binding(name, value, scope);
+            binding.become(name, scope);
+            binding.held.copy(held);
+            return binding;
         }
 
-        private Value makePair(Value first, Value second) {
+        private boolean makePair() {
             if (pairs >= MOST_PAIRS) {
                 return fail(ROOM);
             }
+            Pair pair = pairRow[pairs];
+            pair.first.copy(values[0]);
+            pair.second.copy(values[1]);
+            value.holdPair(pairs, pair);
             pairs++;
-            return new PairValue(first, second);
-        }
-
-        private Value assign(int name, Value value, Binding scope) {
-            Binding found = find(name, scope);
-            if (found != null) {
-                found.value = value;
-            }
-            return value;
-        }
-
-        private Value valueOf(int name, Binding scope) {
-            Binding found = find(name, scope);
-            return found == null || found.value == null ? fail(NAME) : found.value;
+            return true;
         }
 
         private static Binding find(int name, Binding scope) {
@@ -775,32 +832,24 @@ public final class ContinuationCore {
             return at;
         }
 
-        private Value reckon(char kind, Value left, Value right) {
-            if (left instanceof IntValue a && right instanceof IntValue b) {
-                return kind == '<' ? truth(a.number < b.number) : reckonInts(kind, a.number, b.number);
+        private boolean reckon(char kind) {
+            if (values[0].kind != Place.INT || values[1].kind != Place.INT) {
+                return fail(KIND);
             }
-            return fail(KIND);
-        }
-
-        private Value reckonInts(char kind, int a, int b) {
+            int a = values[0].number;
+            int b = values[1].number;
             switch (kind) {
                 case '+':
-                    return new IntValue(a + b);
+                    return answerInt(a + b);
                 case '-':
-                    return new IntValue(a - b);
+                    return answerInt(a - b);
                 case '*':
-                    return new IntValue(a * b);
+                    return answerInt(a * b);
+                case '<':
+                    return answerInt(a < b ? 1 : 0);
                 default:
-                    return b == 0 ? fail(ZERO) : new IntValue(a / b);
+                    return b == 0 ? fail(ZERO) : answerInt(a / b);
             }
-        }
-
-        private static Value truth(boolean holds) {
-            return new IntValue(holds ? 1 : 0);
-        }
-
-        private static boolean isZero(Value value) {
-            return value instanceof IntValue held && held.number == 0;
         }
     }
 }

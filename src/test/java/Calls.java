@@ -48,12 +48,23 @@ final class Calls {
         return number;
     }
 
+    /** A text of any length, eight signs each. */
+    static long[] packedAll(String text) {
+        long[] all = new long[(text.length() + 7) / 8];
+        for (int i = 0; i < all.length; i++) {
+            all[i] = packed(text.substring(8 * i, Math.min(text.length(), 8 * i + 8)));
+        }
+        return all;
+    }
+
     /** Puts a text of any length; the answer of the last call, or of the first that throws. */
     String put(String text) {
         String answer = "nothing put";
-        for (int from = 0; from < text.length() && !answer.startsWith("throws."); from += 8) {
-            long number = packed(text.substring(from, Math.min(text.length(), from + 8)));
+        for (long number : packedAll(text)) {
             answer = answerOf(() -> core.text(number));
+            if (answer.startsWith("throws.")) {
+                break;
+            }
         }
         return answer;
     }

@@ -126,7 +126,7 @@ public final class ModelTest {
     }
 
     private String randomText() {
-        switch (random.nextInt(7)) {
+        switch (random.nextInt(8)) {
             case 0:
                 return "(%f(\\n." + form(4) + ")(f " + form(2) + "))";
             case 1:
@@ -137,9 +137,25 @@ public final class ModelTest {
                 return "(%f(\\n.(?(<n 1)" + form(2) + "(&" + form(2) + "(f(-n 1)))))(f " + random.nextInt(90) + "))";
             case 4:
                 return "(@z(\\x.x)(@n" + random.nextInt(30) + "(&" + form(3) + "(&(!n(-n 1))(?(<0 n)(z" + form(2) + ")" + form(2) + "))))))";
+            case 5:
+                return nestedContinuations();
             default:
                 return form(6);
         }
+    }
+
+    /** Each continuation calls the one before it, so that one step goes on with the forms of all of them. */
+    private String nestedContinuations() {
+        boolean ints = random.nextBoolean();
+        String[] forms = ints ? new String[] {"(+1", "(P", "(!x", "(=a", "(-n", "(<1"} : new String[] {"(^", "(!x", "(^", "(!a"};
+        StringBuilder around = new StringBuilder();
+        StringBuilder brackets = new StringBuilder();
+        for (int i = random.nextInt(6); i > 0; i--) {
+            around.append(forms[random.nextInt(forms.length)]);
+            brackets.append(')');
+        }
+        return "(&(!n" + random.nextInt(30) + ")(&(!s(\\k.(!zk)))(&(!f(\\." + around + (ints ? "(P(^s))" : "(^s)") + brackets
+            + "))(&(^s)(?n(&(!n(-n 1))(z(f)))(z" + (ints ? " " + random.nextInt(3) : "z") + "))))))";
     }
 
     /** Mostly of a fitting kind, so that runs go far before a fault. */
