@@ -4,7 +4,7 @@ import java.util.NoSuchElementException;
 final class Calls {
     private static int wrong = 0;
 
-    final ContinuationCore core = new ContinuationCore();
+    final CountedCore core = new CountedCore();
     private final String title;
 
     Calls(String title) {
@@ -32,11 +32,12 @@ final class Calls {
         }
     }
 
-    void due(String what, Object got, Object want) {
+    Calls due(String what, Object got, Object want) {
         if (!got.toString().equals(want.toString())) {
             wrong++;
             System.out.println(title + ": " + what + " answered " + got + ", due is " + want);
         }
+        return this;
     }
 
     /** Up to eight signs as the number that text takes, low bytes filled. */

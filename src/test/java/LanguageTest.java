@@ -49,7 +49,8 @@ public final class LanguageTest {
     private static void comparing() {
         Calls c = new Calls("comparing").given(0, Integer.MIN_VALUE, 1).given(1, Integer.MAX_VALUE, 2);
         c.value("(<1 2)", "1").value("(<2 2)", "0").value("(<2 1)", "0").value("(<a b)", "1").value("(<b a)", "0");
-        c.value("(=1 1)", "1").value("(=1 2)", "0").value("(=7000 7000)", "1").value("(=_ _)", "1").value("(=_ 0)", "0").value("(=0 _)", "0");
+        c.value("(=1 1)", "1").value("(=1 2)", "0").value("(=7000 7000)", "1").value("(=_ _)", "1").value("(=_ 0)", "0")
+            .value("(=0 _)", "0");
         c.value("(=(:1 2)(:1 2))", "0").value("(@p(:1 2)(=p p))", "1").value("(@p(:1 2)(@q p(=q p)))", "1");
         c.value("(=(\\.1)(\\.1))", "0").value("(@f(\\.1)(=f f))", "1").value("(@f(\\.(\\.1))(=(f)(f)))", "0");
         c.value("(@k(^(\\k.k))(=k k))", "1").value("(@p(:1 2)(=p 1))", "0").value("(=(\\.1)_)", "0");
@@ -61,20 +62,24 @@ public final class LanguageTest {
     private static void pairs() {
         Calls c = new Calls("pairs").value("(A(:1 2))", "1").value("(D(:1 2))", "2").value("(D(A(:(:1 2)3)))", "2");
         c.value("(P(:1 2))", "1").value("(P 1)", "0").value("(P _)", "0").value("(P(\\.1))", "0").value("(P(^(\\k.k)))", "0");
-        c.fault("(A 1)", KIND, 2).fault("(D _)", KIND, 2).fault("(A(\\.1))", KIND, 2).fault("(D(^(\\k.k)))", KIND, 4).fault("(P q)", NAME, 2);
+        c.fault("(A 1)", KIND, 2).fault("(D _)", KIND, 2).fault("(A(\\.1))", KIND, 2).fault("(D(^(\\k.k)))", KIND, 4)
+            .fault("(P q)", NAME, 2);
         c.value("(@p(:1 2)(@q(:p p)(=(A q)(D q))))", "1");
     }
 
     private static void choiceAndSequence() {
         Calls c = new Calls("choice").value("(?1 2 3)", "2").value("(?0 2 3)", "3").value("(?_ 2 3)", "2").value("(?(:0 0)2 3)", "2");
-        c.value("(?(\\.0)2 3)", "2").value("(?(-1 1)q 3)", "3").value("(?(-0 1)2 q)", "2").value("(?0000 2 3)", "3").fault("(?q 1 2)", NAME, 2);
+        c.value("(?(\\.0)2 3)", "2").value("(?(-1 1)q 3)", "3").value("(?(-0 1)2 q)", "2").value("(?0000 2 3)", "3")
+            .fault("(?q 1 2)", NAME, 2);
         c.value("(&1 2)", "2").value("(&(!a 5)(+a 1))", "6").fault("(&q 1)", NAME, 2).fault("(&1 q)", NAME, 3).value("(&_ _)", "_");
     }
 
     private static void namesAndScopes() {
         Calls c = new Calls("names").given(0, 7, 1);
-        c.value("a", "7").fault("b", NAME, 1).value("(!b 3)", "3").value("(!b(+1 2))", "3").value("(&(!b 3)b)", "3").fault("(!b b)", NAME, 2);
-        c.value("(@a 1 a)", "1").value("(@a(+a 1)a)", "8").value("(@a 1(@a 2 a))", "2").value("(+(@a 1 a)a)", "8").value("(@a 1(@b 2 a))", "1");
+        c.value("a", "7").fault("b", NAME, 1).value("(!b 3)", "3").value("(!b(+1 2))", "3").value("(&(!b 3)b)", "3")
+            .fault("(!b b)", NAME, 2);
+        c.value("(@a 1 a)", "1").value("(@a(+a 1)a)", "8").value("(@a 1(@a 2 a))", "2").value("(+(@a 1 a)a)", "8")
+            .value("(@a 1(@b 2 a))", "1");
         c.value("(@a 1(&(@a 2(!a 3))a))", "1").value("(@a 1(&(!a 3)a))", "3").fault("(@b b 1)", NAME, 2);
         // The binding of a recursive name has no value at first, though a global one has.
         c.fault("(%a a 1)", NAME, 2).value("(%a 1 a)", "1").value("(%a(!a 5)a)", "5").value("(%a(&(!a 5)(+a 1))a)", "6");
@@ -88,7 +93,8 @@ public final class LanguageTest {
         Calls c = new Calls("closures").given(0, 7, 1);
         c.value("((\\.5))", "5").value("((\\x.x)5)", "5").value("((\\xy.(-x y))9 4)", "5").value("((\\xyz.(:x(:y z)))1 2 3)", "(1.(2.3))");
         c.fault("((\\.5)1)", COUNT, 3).fault("((\\x.x))", COUNT, 2).fault("((\\x.x)1 2)", COUNT, 4).fault("((\\xyz.x)1 2)", COUNT, 4);
-        c.fault("((\\xy.x)1 2 3)", COUNT, 5).fault("(1)", KIND, 2).fault("(1 2)", KIND, 3).fault("(_)", KIND, 2).fault("((:1 2)1)", KIND, 5);
+        c.fault("((\\xy.x)1 2 3)", COUNT, 5).fault("(1)", KIND, 2).fault("(1 2)", KIND, 3).fault("(_)", KIND, 2)
+            .fault("((:1 2)1)", KIND, 5);
         // The scope is where the closure was made, not where it is called.
         c.value("(@a 1(@f(\\.a)(@a 2(f))))", "1").value("(@f(\\.a)(@a 2(f)))", "7").value("(@f(\\x.(\\y.(-x y)))((f 9)4))", "5");
         c.value("((\\a.(&(!a 2)a))1)", "2").value("(&((\\a.(!a 2))1)a)", "7").value("((\\f.(f f))(\\x.5))", "5");
@@ -98,10 +104,12 @@ public final class LanguageTest {
     private static void continuations() {
         Calls c = new Calls("continuations").value("(^(\\k.5))", "5").value("(+1(^(\\k.(k 5))))", "6").value("(+1(^(\\k.(*9(k 5)))))", "6");
         c.value("(^(\\k.(+1(k 5))))", "5").value("(&(^(\\k.(!a k)))(?(P b)1 2))", "throws.IllegalStateException");
-        c.fault("(^ 1)", KIND, 2).fault("(^ _)", KIND, 2).fault("(^(:1 2))", KIND, 4).fault("(^(\\.1))", COUNT, 2).fault("(^(\\ab.1))", COUNT, 2);
+        c.fault("(^ 1)", KIND, 2).fault("(^ _)", KIND, 2).fault("(^(:1 2))", KIND, 4).fault("(^(\\.1))", COUNT, 2)
+            .fault("(^(\\ab.1))", COUNT, 2);
         c.fault("(^(\\k.(k)))", COUNT, 4).fault("(^(\\k.(k 1 2)))", COUNT, 6).fault("(+_(^(\\k.(k 5))))", KIND, 7);
         // A continuation may be what is called with a continuation.
-        c.value("(^(\\k.(^ k)))", "K").value("(:1(^(\\k.(^ k))))", "(1.K)").value("(P(^(\\k.(:1(^ k)))))", "0").value("(^(^(\\k.(k(\\j.3)))))", "3");
+        c.value("(^(\\k.(^ k)))", "K").value("(:1(^(\\k.(^ k))))", "(1.K)").value("(P(^(\\k.(:1(^ k)))))", "0")
+            .value("(^(^(\\k.(k(\\j.3)))))", "3");
         c.value("(^(^(\\k.k)))", "K").value("((^(\\k.k))(\\x.5))", "5").value("(((^(\\k.k))(\\x.x))5)", "5");
         // Its end is the run's end when nothing waits for the form.
         c.value("(^(\\k.(:1(:2(k 3)))))", "3").state(2, 0);

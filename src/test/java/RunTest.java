@@ -110,7 +110,8 @@ public final class RunTest {
     }
 
     private static void statesOfFaults() {
-        Calls c = new Calls("promise 9, faults").text("(:(:1 2)(+_(!a(@x 1 x))))", 25).start(10).run(10, "throws.UnsupportedOperationException");
+        Calls c = new Calls("promise 9, faults").text("(:(:1 2)(+_(!a(@x 1 x))))", 25).start(10)
+            .run(10, "throws.UnsupportedOperationException");
         c.states(3, 10, 1, 1, 0, 2).global('a', 1);
         c.clear(25).states(3, 10, 1, 1, 0, 2).text("1", 1).states(3, 10, 1, 1, 0, 2).start(1).run(1, 1).states(2, 1, 0, 0, 0, 0);
     }
