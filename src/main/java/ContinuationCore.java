@@ -572,7 +572,7 @@ public final class ContinuationCore {
         /**
          * Within one step a form hands over only to forms older than itself, or, if it is '^', to those
          * of the continuation that it calls, which then gets older forms in exchange. So the turns of a
-         * step stay below some sixty times the forms that ever waited, and far below this bound.
+         * step stay below some sixty times the forms that ever waited, one a step, and below this bound.
          */
         private static final int MOST_TURNS = 1000000;
 
