@@ -34,7 +34,7 @@ public final class RoomTest {
     }
 
     private static long bytes() {
-        return MEMORY.getThreadAllocatedBytes(Thread.currentThread().getId());
+        return MEMORY.getCurrentThreadAllocatedBytes();
     }
 
     /** Gives i a value, starts the text, which must be one without an end, and runs it with all calls that are left. */
